@@ -243,6 +243,11 @@ public final class PacketHeads {
         return bits;
     }
 
+    /** The logarithm to the base 2, rounded down, of a number above 0. */
+    private static int logOf(int number) {
+        return bitsOf(number) - 1;
+    }
+
     /** All bytes, put and written. */
     static final class Store {
         private byte[] row = new byte[SHORT_ROW];
@@ -423,8 +428,6 @@ public final class PacketHeads {
     abstract static class Bits {
         abstract int bit(int offer);
 
-        abstract boolean isReader();
-
         long number(long offer, int bits) {
             long number = 0;
             for (int i = bits - 1; i >= 0; i--) {
@@ -478,10 +481,6 @@ public final class PacketHeads {
             return offer;
         }
 
-        boolean isReader() {
-            return false;
-        }
-
         /** Behind a last byte of 255 the room is 7, so that a byte 0 comes of it. */
         void close() {
             if (room < 8) {
@@ -523,10 +522,6 @@ public final class PacketHeads {
             }
             left--;
             return latest >> left & 1;
-        }
-
-        boolean isReader() {
-            return true;
         }
 
         private void takeByte() {
@@ -670,36 +665,38 @@ public final class PacketHeads {
                 return true;
             }
             for (int b = 0; b < bands.blocks(); b++) {
-                if (brings(b, bits) && !(missing(b, bits) && layPasses(b, bits.passes(now[b])) && lengths(b, bits))) {
+                boolean right = !tellWhetherIn(b, bits)
+                        || tellMissing(b, bits) && accept(b, bits.passes(now[b])) && tellLengths(b, bits);
+                if (!right) {
                     return false;
                 }
             }
             return true;
         }
 
-        private boolean brings(int b, Bits bits) {
+        private boolean tellWhetherIn(int b, Bits bits) {
             if (all[b] > 0) {
                 return bits.bit(now[b] > 0 ? 1 : 0) == 1;
             }
             return in.tell(bands.leaf[b], layers + 1, bits);
         }
 
-        private boolean missing(int b, Bits bits) {
+        private boolean tellMissing(int b, Bits bits) {
             if (all[b] > 0) {
                 return true;
             }
-            // A wrong stream may tell a layer that is past: the block comes in now all the same.
+            // Bytes may tell a layer that is past: the block comes in now all the same.
             in.number[bands.leaf[b]] = layers;
             return out.tell(bands.leaf[b], MOST_MISSING + 1, bits);
         }
 
-        /** Pieces of a writer have been laid by then, with their bytes. */
-        private boolean layPasses(int b, int passes) {
+        /** What is written has been looked at and laid before, with its bytes; what is read has not. */
+        private boolean accept(int b, int passes) {
             return now[b] > 0 || all[b] + passes <= MOST_PASSES && lay(b, passes);
         }
 
-        private boolean lengths(int b, Bits bits) {
-            int wide = bits.isReader() ? 0 : widthFor(b);
+        private boolean tellLengths(int b, Bits bits) {
+            int wide = widthFor(b);
             while (width[b] <= MOST_WIDTH && bits.bit(width[b] < wide ? 1 : 0) == 1) {
                 width[b]++;
             }
@@ -709,7 +706,7 @@ public final class PacketHeads {
             int end = all[b] + now[b];
             for (int i = from[b]; i < from[b] + pieces[b]; i++) {
                 int passes = bands.passesOfPiece(all[b], end);
-                long bytes = bits.number(lengths[i], width[b] + bitsOf(passes) - 1);
+                long bytes = bits.number(lengths[i], width[b] + logOf(passes));
                 if (bytes > MOST_PIECE_BYTES) {
                     return false;
                 }
@@ -719,12 +716,13 @@ public final class PacketHeads {
             return true;
         }
 
+        /** The least width with which the bytes of all pieces fit; one that reads does not heed it. */
         private int widthFor(int b) {
             int wide = 0;
             int pass = all[b];
             for (int i = from[b]; i < from[b] + pieces[b]; i++) {
                 int passes = bands.passesOfPiece(pass, all[b] + now[b]);
-                wide = Math.max(wide, bitsOf(lengths[i]) - bitsOf(passes) + 1);
+                wide = Math.max(wide, bitsOf(lengths[i]) - logOf(passes));
                 pass += passes;
             }
             return wide;
