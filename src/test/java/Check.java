@@ -18,8 +18,24 @@ final class Check {
         }
     }
 
+    /** Prints the first line that is another, as texts may be long. */
+    static void same(String what, String got, String due) {
+        done++;
+        if (!got.equals(due)) {
+            wrong++;
+            String[] gotLines = got.split("\n");
+            String[] dueLines = due.split("\n");
+            int line = 0;
+            while (line < gotLines.length && line < dueLines.length && gotLines[line].equals(dueLines[line])) {
+                line++;
+            }
+            System.out.println(what + ": " + (line < gotLines.length ? gotLines[line] : "nothing") + ", due is "
+                    + (line < dueLines.length ? dueLines[line] : "nothing"));
+        }
+    }
+
     /** The very class is due: the machine's own exceptions are of classes below some of the document's. */
-    private static void thrown(String what, Class<?> due, Call call) {
+    static void thrown(String what, Class<?> due, Call call) {
         Class<?> got = null;
         try {
             call.make();
