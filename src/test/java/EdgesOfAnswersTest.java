@@ -62,6 +62,12 @@ public final class EdgesOfAnswersTest {
                 Refused.argument(state + ": got " + w, state::make, x -> x.got(0, 0, w));
             }
         }
+        PacketHeads all = State.ALL_READ.make();
+        int[] latest = {1, 1, 13, 2, 0, 4};
+        for (int w = 0; w < latest.length; w++) {
+            Check.is("got " + w + " behind 255 heads", all.got(0, 0, w), latest[w]);
+        }
+        Check.is("a block's first layer 254", all.got(2, 2, 4), 254);
         PacketHeads x = State.UNDER_WAY.make();
         int[] due = {12, 2, 12, 2, 0, 4};
         for (int w = 0; w < due.length; w++) {
@@ -225,7 +231,8 @@ public final class EdgesOfAnswersTest {
     private static void bytesNamesAPiece() {
         for (State state : State.values()) {
             if (state.hasBlocks()) {
-                Refused.index(state + ": a piece of a block that never comes", state::make, x -> x.bytes(2, 2, 0));
+                int behind = state.make().got(2, 2, 1);
+                Refused.index(state + ": a piece behind the last one", state::make, x -> x.bytes(2, 2, behind));
                 Refused.index(state + ": piece -1", state::make, x -> x.bytes(0, 0, -1));
                 Refused.index(state + ": the least piece", state::make, x -> x.bytes(0, 0, LEAST));
                 Refused.index(state + ": the most piece", state::make, x -> x.bytes(0, 0, MOST));

@@ -282,7 +282,8 @@ public final class EdgesOfPrecinctTest {
             Check.argument("no block behind it", () -> x.bring(0, 1024, 0));
         }
         for (int[] size : more) {
-            Refused.argument(size[0] * size[1] + " blocks in one band", PacketHeads::new, x -> x.band(size[0], size[1]));
+            Refused.argument(size[0] * size[1] + " blocks in one band", PacketHeads::new,
+                    x -> x.band(size[0], size[1]));
         }
         Refused.argument("1025 blocks in two bands", () -> bands(31, 33, 0, 0), x -> x.band(1, 2));
         Check.is("1024 blocks in two bands", bands(31, 33, 0, 0).band(1, 1), 2);
@@ -460,6 +461,11 @@ public final class EdgesOfPrecinctTest {
             Refused.state(state + ": first of a block that came in", state::make, x -> x.first(0, 0, 1, 4));
             Refused.state(state + ": first of a block that didn't", state::make, x -> x.first(0, 2, 254, 0));
             Refused.state(state + ": first of a block that never does", state::make, x -> x.first(2, 2, NONE, 0));
+            Refused.state(state + ": a block that is due comes later", state::make, x -> x.first(0, 1, 2, 0));
+            Refused.state(state + ": a block that is due never comes", state::make, x -> x.first(0, 1, NONE, 0));
+            Refused.state(state + ": a block comes sooner", state::make, x -> x.first(2, 1, 1, 73));
+            Refused.state(state + ": a block that never did comes next", state::make, x -> x.first(0, 2, 1, 0));
+            Refused.state(state + ": other missing planes", state::make, x -> x.first(2, 1, 2, 72));
             Refused.argument(state + ": first with no such layer", state::make, x -> x.first(0, 0, 255, 0));
             Refused.argument(state + ": first with no such number", state::make, x -> x.first(0, 0, 0, 74));
         }

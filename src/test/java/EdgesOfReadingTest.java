@@ -1,4 +1,4 @@
-/** Promise 11 and when a head is WRONG, sentence by sentence: what is just right, what just isn't, and what it leaves. */
+/** Promise 11, and when a head is WRONG, sentence by sentence: what is just right, what isn't, and what that leaves. */
 public final class EdgesOfReadingTest {
     private static final int NONE = PacketHeads.NONE;
     private static final int LEAST = Integer.MIN_VALUE;
@@ -20,7 +20,9 @@ public final class EdgesOfReadingTest {
         comesInInTheLayerThatIsRead();
         fillingBitsMayBeAny();
         bitBehind255MayBeAny();
+        byteBehindTwo255HasSevenBits();
         byteBehindALast255IsTaken();
+        byteBehind255OfAnotherHeadHasEight();
         wrongIfBytesLack();
         wrongIfMissingPlanesAreNotKnown();
         wrongIfPassesAreAbove200();
@@ -107,10 +109,12 @@ public final class EdgesOfReadingTest {
         for (State state : State.values()) {
             int count = state.make().at(NONE);
             int[][] none = {{-1, 0}, {-1, 1}, {-1, count + 1}, {0, -1}, {0, count + 1}, {1, count}, {count, 1},
-                {count, -1}, {count + 1, 0}, {count + 1, -1}, {LEAST, 0}, {LEAST, LEAST}, {0, LEAST}, {MOST, 0}, {MOST, 1},
-                {0, MOST}, {1, MOST}, {MOST, MOST}, {MOST, LEAST}, {LEAST, MOST}, {count, MOST}, {-1 - count, count}};
+                {count, -1}, {count + 1, 0}, {count + 1, -1}, {LEAST, 0}, {LEAST, LEAST}, {0, LEAST}, {MOST, 0},
+                {MOST, 1}, {0, MOST}, {1, MOST}, {MOST, MOST}, {MOST, LEAST}, {LEAST, MOST}, {count, MOST},
+                {-1 - count, count}};
             for (int[] it : none) {
-                Refused.argument(state + ": read(" + it[0] + ", " + it[1] + ")", state::make, x -> x.read(it[0], it[1]));
+                Refused.argument(state + ": read(" + it[0] + ", " + it[1] + ")", state::make,
+                        x -> x.read(it[0], it[1]));
             }
         }
         PacketHeads x = new PacketHeads();
@@ -143,6 +147,11 @@ public final class EdgesOfReadingTest {
 
     private static void refusesBehind255Heads() {
         Refused.state("a head behind 255", State.ALL_READ::make, x -> x.read(x.at(NONE) - 1, 1));
+        Refused.state("an empty head behind 255", () -> {
+            PacketHeads x = State.ALL_READ.make();
+            x.put(0);
+            return x;
+        }, x -> x.read(x.at(NONE) - 1, 1));
         Refused.state("a wrong head behind 255", State.ALL_READ::make, x -> x.read(0, 0));
         Refused.argument("no such bytes behind 255 heads", State.ALL_READ::make, x -> x.read(0, x.at(NONE) + 1));
         PacketHeads x = new PacketHeads();
@@ -209,8 +218,8 @@ public final class EdgesOfReadingTest {
         PacketHeads x = precinct(0, 1, 2);
         right("an empty head", x, new HeadBits().add("0"));
         right("one more", x, new HeadBits().add("0"));
-        right("IN tells 0 of the one and 2 of the other", x, new HeadBits().add("1").add("1 1").add("1 1").add("0 0 001")
-                .add("001").add("1").add("0 0 010"));
+        right("IN tells 0 of the one and 2 of the other", x, new HeadBits().add("1").add("1 1").add("1 1")
+                .add("0 0 001").add("001").add("1").add("0 0 010"));
         Check.is("the one", x.got(0, 0, 4), 2);
         Check.is("the other", x.got(0, 1, 4), 2);
         right("both came in before", x, new HeadBits().add("1 0 1 0 0 111"));
@@ -256,6 +265,19 @@ public final class EdgesOfReadingTest {
         }
     }
 
+    /** Whatever its highest bit is: a byte of 255 is one, behind another one too. */
+    private static void byteBehindTwo255HasSevenBits() {
+        PacketHeads x = precinct(0, 1, 1);
+        // 111 11111 | ? 1111 111 | ? 1111 110 | 10000000 | 0010 and four others: 164 passes, 2 wider, 12 bits.
+        for (int b : new int[] {255, 255, 0b11111110, 0b10000000, 0b00100000}) {
+            x.put(b);
+        }
+        Check.is("a 255 behind a 255", x.read(0, 5), 5);
+        Check.is("164 passes", x.got(0, 0, 0), 164);
+        Check.is("their width", x.got(0, 0, 5), 5);
+        Check.is("their bytes", x.bytes(0, 0, 0), 0b100000000010);
+    }
+
     // "behind a last byte of 255 one more is taken, whatever it is."
 
     private static void byteBehindALast255IsTaken() {
@@ -283,6 +305,32 @@ public final class EdgesOfReadingTest {
         none.put(254);
         none.put(0);
         Check.is("behind 254 none is taken", none.read(0, 2), 1);
+    }
+
+    // "a byte behind a 255 (of the same head)"
+
+    private static void byteBehind255OfAnotherHeadHasEight() {
+        PacketHeads x = precinct(0, 1, 1);
+        x.put(255);
+        x.put(0b10000000);
+        Check.is("a 255 before the place", x.read(1, 1), 1);
+        for (int b : new int[] {0b11101111, 0b11110111, 255, 255}) {
+            x.put(b);
+        }
+        Check.is("a head that ends with two of 255", x.read(2, 4), 4);
+        // 1 1 0 0 and eleven bits: the head behind them.
+        x.put(0b11001000);
+        x.put(0b00000010);
+        Check.is("all eight bits of the next count", x.read(6, 2), 2);
+        Check.is("its bytes", x.bytes(0, 0, 0), 0b10000000001);
+        PacketHeads over = precinct(0, 1, 1);
+        over.put(255);
+        over.put(SEVEN);
+        Check.unsupported("a head that is wrong behind 255", () -> over.read(0, 1));
+        over.begin(0);
+        over.band(1, 1);
+        Check.is("the first of the next precinct", over.read(1, 1), 1);
+        Check.is("its bytes", over.bytes(0, 0, 0), 7);
     }
 
     // "A head is WRONG if it needs more bytes than it may take;"
@@ -456,7 +504,8 @@ public final class EdgesOfReadingTest {
         right("a second head", x, new HeadBits().add("0"));
         int place = x.at(NONE);
         // The first block brings a pass; the second one's pieces have too many bytes.
-        int n = new HeadBits().add("1").add("1 0 0 0001").add("1 0").times(12, "1").add("0").number(65536, 17).putInto(x);
+        int n = new HeadBits().add("1").add("1 0 0 0001").add("1 0").times(12, "1").add("0").number(65536, 17)
+                .putInto(x);
         Check.unsupported("a third head, which is wrong", () -> x.read(place, n));
         Check.is("reading is over", x.layers(2), 1);
         Check.is("two heads were read", x.layers(1), 2);

@@ -1,3 +1,7 @@
+import java.util.Arrays;
+import java.util.HashSet;
+import java.util.Set;
+
 /** Promises 5 to 7, sentence by sentence: what is just allowed, what just isn't, and what a refused call leaves. */
 public final class EdgesOfWritingTest {
     private static final int NONE = PacketHeads.NONE;
@@ -13,6 +17,7 @@ public final class EdgesOfWritingTest {
         bringTakes200InAllWithEach();
         bringTakes4096Pieces();
         bringComesInPlaceOfWhatWasTold();
+        bringLeavesOtherBlocksPieces();
         bringLeavesNoBytesTold();
         bringTellsPieces();
         bringNumbersPassesOn();
@@ -29,9 +34,11 @@ public final class EdgesOfWritingTest {
         writeUsesUpWhatBlocksBring();
         writeRefusesTooManyBytes();
         headWithoutPassesIsABit();
+        allBlocksComeIn();
         lastByteIsFilled();
         lastByteOf255IsFollowed();
         byteBehind255HasSevenBits();
+        byteBehind255OfAnotherHeadHasEight();
         inIsToldUpToTheLayer();
         outIsToldUpTo74();
         treesHaveFewerNodesAtTheEnds();
@@ -153,19 +160,19 @@ public final class EdgesOfWritingTest {
         x.band(3, 3);
         x.band(2, 2);
         for (int b = 0; b < 24; b++) {
-            x.bring(b < 16 ? 0 : 1, b < 16 ? b : b - 16, 164);
+            x.bring(b < 16 ? 0 : 1, b < 16 ? b : b - 15, 164);
         }
-        x.bring(1, 8, 160 - less);
-        x.piece(1, 8, 7);
+        x.bring(1, 0, 160 - less);
+        x.piece(1, 0, 7);
         return x;
     }
 
     private static void bringTakes4096Pieces() {
         Refused.argument("4096 pieces and 1", () -> manyPieces(0), x -> x.bring(2, 0, 1));
-        Refused.argument("4096 pieces and 1 in place of others", () -> manyPieces(0), x -> x.bring(1, 8, 161));
+        Refused.argument("4096 pieces and 1 in place of others", () -> manyPieces(0), x -> x.bring(1, 0, 161));
         Refused.argument("4095 pieces and 2", () -> manyPieces(1), x -> x.bring(2, 3, 2));
         Check.is("4095 pieces and 1", manyPieces(1).bring(2, 3, 1), 1);
-        Check.is("4095 pieces and 1 in place of others", manyPieces(1).bring(1, 8, 160), 160);
+        Check.is("4095 pieces and 1 in place of others", manyPieces(1).bring(1, 0, 160), 160);
         PacketHeads x = manyPieces(0);
         Check.is("4096 pieces and none", x.bring(2, 0, 0), 0);
         Check.is("as many in place of others", x.bring(0, 0, 164), 164);
@@ -173,6 +180,9 @@ public final class EdgesOfWritingTest {
         Check.is("and one more then", x.bring(2, 0, 1), 1);
         Check.argument("but not two", () -> x.bring(2, 0, 2));
         Check.is("a refused one counts no pieces", x.bring(2, 0, 1), 1);
+        for (int i = 0; i < 3; i++) {
+            Check.is("one in place of one", x.bring(2, 0, 1), 1);
+        }
         x.begin(4);
         x.band(2, 1);
         Check.is("a new precinct counts anew", x.bring(0, 0, 164), 164);
@@ -197,6 +207,41 @@ public final class EdgesOfWritingTest {
         none.bring(0, 0, 5);
         Check.is("none in place of some", none.bring(0, 0, 0), 0);
         Check.is("and none is written", none.write(), 1);
+    }
+
+    /** Each of three blocks is told again when all have bytes; those of the others stay. */
+    private static void bringLeavesOtherBlocksPieces() {
+        for (int again = 0; again < 3; again++) {
+            for (int pieces = 0; pieces <= 3; pieces++) {
+                PacketHeads x = new PacketHeads();
+                x.begin(4);
+                x.band(3, 1);
+                HeadBits due = new HeadBits().add("1");
+                for (int b = 2; b >= 0; b--) {
+                    x.first(0, b, b == again && pieces == 0 ? 1 : 0, 0);
+                    State.tell(x, 0, b, 2, b + 1, b + 4);
+                }
+                x.bring(0, again, pieces);
+                for (int i = 0; i < pieces; i++) {
+                    x.piece(0, again, 7 - i);
+                }
+                x.write();
+                for (int b = 0; b < 3; b++) {
+                    boolean none = b == again && pieces == 0;
+                    // The root, the node above blocks 0 and 1 or 2, and the block; the OUT tree likewise, if it comes.
+                    due.times(b == 0 ? 2 : b == 1 ? 0 : none ? 0 : 1, "1").add(none ? "0" : "1");
+                    if (!none) {
+                        boolean firstOfAll = b == 0 || b == 1 && again == 0 && pieces == 0;
+                        due.times(firstOfAll ? 3 : b == 1 ? 1 : 2, "1");
+                        due.add(b != again || pieces == 2 ? "10" : pieces == 1 ? "0" : "1100").add("0");
+                        for (int i = 0; i < (b == again ? pieces : 2); i++) {
+                            due.number(b == again ? 7 - i : b + 1 + 3 * i, 3);
+                        }
+                    }
+                }
+                due.checkWritten("block " + again + " is told again, with " + pieces + " passes", x, 0);
+            }
+        }
     }
 
     private static void bringLeavesNoBytesTold() {
@@ -524,6 +569,36 @@ public final class EdgesOfWritingTest {
         }
     }
 
+    /** All of them, told from the last one on, and every third told again. */
+    private static void allBlocksComeIn() {
+        int[][] shapes = {{1, 1}, {15, 1}, {4, 4}, {17, 1}, {31, 1}, {8, 4}, {3, 11}, {8, 8}, {10, 10}};
+        for (int[] it : shapes) {
+            int blocks = it[0] * it[1];
+            PacketHeads x = new PacketHeads();
+            x.begin(4);
+            x.band(it[0], it[1]);
+            for (int b = blocks - 1; b >= 0; b--) {
+                x.first(0, b, 0, b % 74);
+                State.tell(x, 0, b, 1, b);
+            }
+            for (int b = 0; b < blocks; b += 3) {
+                State.tell(x, 0, b, 1, 1000 + b);
+            }
+            int n = x.write();
+            PacketHeads y = new PacketHeads();
+            y.begin(4);
+            y.band(it[0], it[1]);
+            for (int k = 0; k < n; k++) {
+                y.put(x.at(k));
+            }
+            Check.is("a head of " + blocks + " blocks", y.read(0, n), n);
+            for (int b = 0; b < blocks; b++) {
+                Check.is("a block's missing planes", y.got(0, b, 3), b % 74);
+                Check.is("a block's bytes", y.bytes(0, b, 0), b % 3 == 0 ? 1000 + b : b);
+            }
+        }
+    }
+
     // "At the end the last byte is filled with 0s; if it is 255, a byte 0 follows."
 
     private static void lastByteIsFilled() {
@@ -593,6 +668,27 @@ public final class EdgesOfWritingTest {
         checkBytes("bytes behind several 255s", next, several);
     }
 
+    private static void byteBehind255OfAnotherHeadHasEight() {
+        PacketHeads x = block(0, 0);
+        x.put(255);
+        State.tell(x, 0, 0, 1, 2047);
+        x.write();
+        State.tell(x, 0, 0, 37, 1);
+        x.write();
+        // 11 111111 | (0) 111 0000 | 000 0 0000 | 00000000 | 0001 and 0s: width 11, 16 bits.
+        int[] due = {255, 0b11101111, 0b11110111, 255, 0, 255, 0b01110000, 0b00000000, 0b00000000, 0b00010000};
+        checkBytes("heads behind 255s", x, due);
+        PacketHeads partial = block(0, 0);
+        // 111 10 0 11 | 11 and 0s: what is left in a last byte is no part of the next head.
+        State.tell(partial, 0, 0, 2, 15);
+        partial.write();
+        State.tell(partial, 0, 0, 37, 255);
+        partial.write();
+        // 11 111111 | (0) 111 0000 | 000 0 1111 | 1111 and 0s: width 3, 8 bits.
+        int[] next = {0b11110011, 0b11000000, 255, 0b01110000, 0b00001111, 0b11110000};
+        checkBytes("a 255 behind a byte that is partly filled", partial, next);
+    }
+
     private static void checkBytes(String what, PacketHeads x, int[] due) {
         Check.is(what + ": bytes", x.at(NONE), due.length);
         for (int k = 0; k < due.length; k++) {
@@ -638,28 +734,16 @@ public final class EdgesOfWritingTest {
     // "one for each two by two of these (from the first row and column on; fewer at the ends) .. up to one alone"
 
     private static void treesHaveFewerNodesAtTheEnds() {
-        // How many nodes stand on the way to the last block that don't stand on the way to the first.
-        int[][] shapes = {{1, 1, 1, 0}, {2, 1, 2, 1}, {1, 2, 2, 1}, {2, 2, 2, 1}, {3, 1, 3, 2}, {3, 3, 3, 2}, {4, 4, 3, 2},
-            {5, 1, 4, 3}, {1, 5, 4, 3}, {8, 8, 4, 3}, {9, 2, 5, 4}, {33, 31, 7, 6}, {64, 1, 7, 6}, {1, 64, 7, 6},
-            {64, 16, 7, 6}};
+        int[][] shapes = {{1, 1}, {2, 1}, {1, 2}, {2, 2}, {3, 1}, {1, 3}, {3, 2}, {2, 3}, {3, 3}, {4, 1}, {1, 4},
+            {4, 2}, {2, 4}, {4, 3}, {3, 4}, {4, 4}, {5, 1}, {1, 5}, {5, 5}, {6, 7}, {8, 8}, {9, 2}, {2, 9}, {16, 5},
+            {33, 31}, {31, 33}, {32, 32}, {64, 1}, {1, 64}, {64, 16}, {16, 64}, {63, 16}, {17, 60}};
         for (int[] it : shapes) {
-            PacketHeads x = new PacketHeads();
-            x.band(it[0], it[1]);
             int last = it[0] * it[1] - 1;
-            x.first(0, 0, 0, 0);
-            x.first(0, last, 0, 0);
-            State.tell(x, 0, 0, 1, 1);
-            State.tell(x, 0, last, 1, 1);
-            int n = x.write();
-            Check.is(it[0] + " by " + it[1] + ": the root of both", x.read(0, n), n);
-            Check.is("it has its first block", x.bytes(0, 0, 0), 1);
-            Check.is("and its last", x.bytes(0, last, 0), 1);
-            if (it[0] * it[1] <= 2) {
-                HeadBits due = new HeadBits().add("1").times(2 * it[2], "1").add("0 0 001");
-                (last == 0 ? due : due.times(2 * it[3], "1").add("0 0 001")).checkWritten("few blocks", x, 0);
-            } else if (it[0] == 1 || it[1] == 1) {
-                rowOf(it[0] * it[1], it[2], it[3]).checkWritten("a row or column of " + (last + 1), x, 0);
-            }
+            writeTree(it[0], it[1], 0);
+            writeTree(it[0], it[1], last);
+            writeTree(it[0], it[1], 0, last);
+            writeTree(it[0], it[1], last / 2, last);
+            writeTree(it[0], it[1], it[0] - 1, last + 1 - it[0]);
         }
         PacketHeads three = new PacketHeads();
         three.band(3, 3);
@@ -673,31 +757,42 @@ public final class EdgesOfWritingTest {
                 .add("").add("1 1 1 1 0 0 001").checkWritten("three by three", three, 0);
     }
 
-    /** A row whose first block and last come in: between them each node that is met first tells that it doesn't. */
-    private static HeadBits rowOf(int blocks, int levels, int fresh) {
-        HeadBits due = new HeadBits().add("1").times(2 * levels, "1").add("0 0 001");
-        boolean[][] met = new boolean[levels][blocks];
-        for (int level = 0; level < levels; level++) {
-            met[level][0] = true;
+    /** Two blocks at most come in in layer 0, with one pass of one byte each. */
+    private static void writeTree(int wide, int high, int... coming) {
+        PacketHeads x = new PacketHeads();
+        x.band(wide, high);
+        for (int b : coming) {
+            x.first(0, b, 0, 0);
+            State.tell(x, 0, b, 1, 1);
         }
-        for (int b = 1; b < blocks - 1; b++) {
-            for (int level = levels - 1; level >= 0; level--) {
-                int node = b >> level;
-                boolean comes = node == 0 && level > 0 || node == blocks - 1 >> level;
-                if (!met[level][node]) {
-                    met[level][node] = true;
-                    due.add(comes ? "1" : "0");
+        x.write();
+        HeadBits due = new HeadBits().add("1");
+        Set<String> inMet = new HashSet<>();
+        Set<String> outMet = new HashSet<>();
+        int levels = 1;
+        while (1 << levels - 1 < Math.max(wide, high)) {
+            levels++;
+        }
+        for (int b = 0; b < wide * high; b++) {
+            boolean comes = true;
+            for (int level = levels - 1; level >= 0 && comes; level--) {
+                String node = node(b, wide, level);
+                comes = false;
+                for (int other : coming) {
+                    comes |= node.equals(node(other, wide, level));
                 }
-                if (!comes) {
-                    break;
-                }
+                due.add(inMet.add(node) ? comes ? "1" : "0" : "");
             }
+            for (int level = levels - 1; level >= 0 && comes; level--) {
+                due.add(outMet.add(node(b, wide, level)) ? "1" : "");
+            }
+            due.add(comes ? "0 0 001" : "");
         }
-        int left = 0;
-        for (int level = 0; level < levels; level++) {
-            left += met[level][blocks - 1 >> level] ? 0 : 1;
-        }
-        return due.times(left, "1").times(fresh, "1").add("0 0 001");
+        due.checkWritten("blocks " + Arrays.toString(coming) + " of " + wide + " by " + high, x, 0);
+    }
+
+    private static String node(int b, int wide, int level) {
+        return level + ": " + (b % wide >> level) + ", " + (b / wide >> level);
     }
 
     // "1: 0. 2: 1 0. 3 to 5: 1 1 and .. 6 to 36: 1 1 1 1 and .. 37 to 164: nine bits 1 and .."

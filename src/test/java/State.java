@@ -8,9 +8,9 @@ enum State {
     UNDER_WAY,
     /** The same, but reading is over. */
     OVER,
-    /** 255 heads were written; one more block brings a pass. */
+    /** 255 heads were written; a block brings two passes more, of which one piece has bytes. */
     ALL_WRITTEN,
-    /** 255 heads were read. */
+    /** 255 heads were read, the latest of which brings passes. */
     ALL_READ;
 
     PacketHeads make() {
@@ -76,16 +76,20 @@ enum State {
         x.piece(0, 0, 8);
         x.write();
         tell(x, 2, 1, 1, 5);
-        while (x.layers(0) < 255) {
+        for (int layer = 2; layer < 255; layer++) {
             x.write();
         }
-        tell(x, 0, 0, 1, 3);
+        tell(x, 0, 0, 2, 3);
     }
 
     private static void readAll(PacketHeads x) {
-        int place = x.put(0) - 1;
-        while (x.layers(1) < 255) {
-            x.read(place, 1);
+        int empty = x.put(0) - 1;
+        for (int layer = 1; layer < 254; layer++) {
+            x.read(empty, 1);
         }
+        // Blocks 0, 1 and 2 of the first band bring a pass each, and so do 1 and 2 of the last.
+        int n = new HeadBits().add("1").add("1 0 0 0101").add("1 1 0 0 001").add("1 1 0 0 010").add("0").add("0")
+                .add("1 1 0 0 011").add("11 11 0 0 100").putInto(x);
+        x.read(empty + 1, n);
     }
 }
