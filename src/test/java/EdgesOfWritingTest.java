@@ -571,7 +571,7 @@ public final class EdgesOfWritingTest {
 
     /** All of them, told from the last one on, and every third told again. */
     private static void allBlocksComeIn() {
-        int[][] shapes = {{1, 1}, {15, 1}, {4, 4}, {17, 1}, {31, 1}, {8, 4}, {3, 11}, {8, 8}, {10, 10}};
+        int[][] shapes = {{1, 1}, {15, 1}, {4, 4}, {17, 1}, {31, 1}, {8, 4}, {3, 11}, {8, 8}};
         for (int[] it : shapes) {
             int blocks = it[0] * it[1];
             PacketHeads x = new PacketHeads();
