@@ -449,44 +449,48 @@ public final class EdgesOfReadingTest {
 
     // "or there be more than 4096 pieces."
 
-    /** How many nodes on the way to a block of a row of 25 don't stand on the way to one before it. */
-    private static int freshNodes(int b) {
-        int fresh = 0;
-        for (int level = 0; level < 6; level++) {
-            fresh += b == 0 || b >> level != b - 1 >> level ? 1 : 0;
-        }
-        return fresh;
-    }
-
-    /** In a row of 25, 24 blocks bring 164 passes and the last one some, each of them a piece. */
-    private static HeadBits manyPieces(int last) {
-        HeadBits bits = new HeadBits().add("1");
-        for (int b = 0; b < 25; b++) {
-            int passes = b < 24 ? 164 : last;
-            bits.times(2 * freshNodes(b), "1").add("111111111").number(passes - 37, 7).add("0").times(passes, "001");
-        }
-        return bits;
-    }
-
     private static void wrongIfPiecesAreAbove4096() {
-        PacketHeads x = precinct(4, 25, 1);
-        right("4096 pieces", x, manyPieces(160));
-        Check.is("the last block's", x.got(0, 24, 1), 160);
-        Check.is("the last one's bytes", x.bytes(0, 24, 159), 1);
-        wrong("4097 pieces", precinct(4, 25, 1), manyPieces(161));
-        HeadBits next = new HeadBits().add("1");
-        for (int b = 0; b < 25; b++) {
-            next.add("1 1111 11110 0").times(36, "010");
+        reads4096Pieces();
+        ManyPieces more = new ManyPieces(161);
+        PacketHeads x = more.x;
+        int n = x.at(NONE);
+        Check.unsupported("4097 pieces", () -> x.read(0, n));
+        Check.is("4097 pieces: reading is over", x.layers(2), 1);
+        for (int b = 0; b < ManyPieces.BLOCKS; b++) {
+            Check.is("4097 pieces: none of block " + b, x.got(0, b, 1), 0);
+            Check.is("4097 pieces: no passes of block " + b, x.got(0, b, 2), 0);
         }
-        right("900 pieces in the next head", x, next);
-        Check.is("of the last block", x.got(0, 24, 1), 36);
-        PacketHeads none = precinct(0, 25, 1);
+        Check.is("4097 pieces are read in few calls", more.calls() < 400 ? 1 : 0, 1);
+        reads4100PassesInFewPieces();
+    }
+
+    /** So many may be in the next head again. */
+    private static void reads4096Pieces() {
+        ManyPieces most = new ManyPieces(160);
+        PacketHeads x = most.x;
+        int n = x.at(NONE);
+        Check.is("4096 pieces", x.read(0, n), n);
+        for (int b = 0; b < ManyPieces.BLOCKS; b++) {
+            int pieces = most.passes(b);
+            Check.is("4096 pieces: those of block " + b, x.got(0, b, 1), pieces);
+            for (int i : new int[] {0, pieces / 2, pieces - 1}) {
+                Check.is("4096 pieces: bytes of one of block " + b, x.bytes(0, b, i), most.bytes(b, i));
+            }
+        }
+        right("the next head's piece", x, new HeadBits().add("1").add("1 0 0 010").times(ManyPieces.BLOCKS - 1, "0"));
+        Check.is("of the first block", x.bytes(0, 0, 0), 2);
+        Check.is("of the last block", x.got(0, 24, 1), 0);
+        Check.is("4096 pieces are read in few calls", most.calls() < 350 ? 1 : 0, 1);
+    }
+
+    private static void reads4100PassesInFewPieces() {
+        PacketHeads x = precinct(0, ManyPieces.BLOCKS, 1);
         HeadBits passes = new HeadBits().add("1");
-        for (int b = 0; b < 25; b++) {
-            passes.times(2 * freshNodes(b), "1").add(PASSES_164).add("0").number(b, 10);
+        for (int b = 0; b < ManyPieces.BLOCKS; b++) {
+            passes.times(2 * ManyPieces.freshNodes(b), "1").add(PASSES_164).add("0").number(b, 10);
         }
-        right("4100 passes in 25 pieces", none, passes);
-        Check.is("of the last block", none.bytes(0, 24, 0), 24);
+        right("4100 passes in 25 pieces", x, passes);
+        Check.is("of the last block", x.bytes(0, 24, 0), 24);
     }
 
     // "READING is over then, and nothing was read of any block (widths are 3 again; how many heads were read stays)."

@@ -271,46 +271,22 @@ public final class ReadingTest {
         Check.index("the first is forgotten too", () -> second.bytes(0, 0, 0));
     }
 
-    /** A head in which 24 blocks of 5 by 5 bring 164 passes and the last one some, each a piece. */
-    private static HeadBits manyPieces(int last) {
-        HeadBits bits = new HeadBits().add("1");
-        boolean[] met = new boolean[4 * 25];
-        for (int b = 0; b < 25; b++) {
-            int levels = nodes(b, met);
-            bits.times(levels, "1").times(levels, "1").add("111111111").number(b < 24 ? 127 : last - 37, 7).add("0");
-            bits.times(b < 24 ? 164 : last, b % 2 == 0 ? "001" : "110");
-        }
-        return bits;
-    }
-
-    /** How many nodes on the way to a block of 5 by 5 were not met before. */
-    private static int nodes(int b, boolean[] met) {
-        int fresh = 0;
-        for (int level = 0; level < 4; level++) {
-            int node = level * 25 + (b / 5 >> level) * 5 + (b % 5 >> level);
-            fresh += met[node] ? 0 : 1;
-            met[node] = true;
-        }
-        return fresh;
-    }
-
     private static void piecesInAll() {
-        PacketHeads x = precinct(4, 5, 5);
-        read(x, manyPieces(160));
+        ManyPieces most = new ManyPieces(160);
+        PacketHeads x = most.x;
+        int n = x.at(NONE);
+        Check.is("a head of 4096 pieces", x.read(0, n), n);
         Check.is("4096 pieces, the last ones", x.got(0, 24, 1), 160);
-        Check.is("bytes of the last one", x.bytes(0, 24, 159), 1);
-        Check.is("bytes of one before", x.bytes(0, 23, 163), 6);
-        PacketHeads y = precinct(4, 5, 5);
-        wrong("4097 pieces", y, manyPieces(161));
-        Check.is("none of them", y.got(0, 0, 1), 0);
-        HeadBits second = new HeadBits().add("1");
-        for (int b = 0; b < 25; b++) {
-            second.add("1 1111 11110 0").times(36, "010");
+        for (int i = 0; i < 164; i++) {
+            Check.is("bytes of piece " + i, x.bytes(0, 12, i), most.bytes(12, i));
         }
-        read(x, second);
-        Check.is("the pieces of each head count by themselves", x.got(0, 24, 1), 36);
-        Check.is("their bytes", x.bytes(0, 24, 35), 2);
-        Check.is("all passes together", x.got(0, 24, 2), 196);
+        PacketHeads y = new ManyPieces(161).x;
+        Check.unsupported("4097 pieces", () -> y.read(0, n));
+        Check.is("none of them", y.got(0, 0, 1), 0);
+        read(x, new HeadBits().add("1").times(24, "0").add("1 10 0 010 011"));
+        Check.is("the pieces of each head count by themselves", x.got(0, 24, 1), 2);
+        Check.is("their bytes", x.bytes(0, 24, 1), 3);
+        Check.is("all passes together", x.got(0, 24, 2), 162);
     }
 
     private static void wrongForgets() {
